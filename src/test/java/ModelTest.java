@@ -1,0 +1,195 @@
+import java.util.Random;
+
+/** Random runs of calls, fixed by their seeds, on the program and on the plain model of the document. */
+public final class ModelTest {
+    private static final int RUNS = 1500;
+    private static final int CALLS = 120;
+
+    private final Check check = new Check();
+    private final int[] roundAnswers = new int[3];
+    private Random random;
+    private SpeciesRounds x;
+    private PlainModel model;
+    private String where;
+    private int calls;
+
+    public static void main(String[] args) {
+        ModelTest test = new ModelTest();
+        for (int seed = 1; seed <= RUNS && !test.check.failed(); seed++) {
+            test.run(seed);
+        }
+        System.out.println("rounds refused, without and with new species: " + test.roundAnswers[0] + ", "
+                + test.roundAnswers[1] + ", " + test.roundAnswers[2]);
+        test.check.end();
+    }
+
+    private void run(int seed) {
+        random = new Random(seed);
+        int cap = random.nextInt(8);
+        x = new SpeciesRounds(cap);
+        model = new PlainModel(cap);
+        where = "seed " + seed;
+        calls = 0;
+        // Few letters make closed worlds that rounds can fill; many make the odd cases.
+        String letters = new String[] {"HONC", "HO", "HC", "C", "ON", "HHON", "NC"}[random.nextInt(7)];
+        while (calls < CALLS && !check.failed()) {
+            step(letters);
+        }
+        compareAll();
+    }
+
+    private void step(String letters) {
+        int kind = random.nextInt(20);
+        if (kind < 7) {
+            enter(random.nextInt(4) == 0 ? noise() : molecule(letters));
+        } else if (kind < 9) {
+            rule(letters);
+        } else if (kind < 13) {
+            change();
+        } else if (kind < 15) {
+            round();
+        } else if (kind < 17) {
+            matches();
+        } else if (kind < 18) {
+            boolean got = x.back();
+            due("back()", got ? 1 : 0, model.back() ? 1 : 0);
+        } else {
+            ask();
+        }
+    }
+
+    private void due(String call, int got, int want) {
+        calls++;
+        check.due(where + ", call " + calls + ": " + call, got, want);
+    }
+
+    private void enter(String text) {
+        for (char c : text.toCharArray()) {
+            boolean got = x.key(c);
+            due("key(" + (int) c + ")", got ? 1 : 0, model.key(c) ? 1 : 0);
+        }
+        if (random.nextInt(30) != 0) {
+            due("enter() of " + text, x.enter(), model.enter());
+        }
+    }
+
+    private String noise() {
+        String from = "HONCC()()-=#12123\u001f ~\u007f\u00c3";
+        StringBuilder text = new StringBuilder(random.nextInt(3) == 0 ? "" : "C");
+        int length = random.nextInt(random.nextInt(10) == 0 ? 30 : 8);
+        for (int k = 0; k < length; k++) {
+            text.append(from.charAt(random.nextInt(from.length())));
+        }
+        return text.toString();
+    }
+
+    private String molecule(String letters) {
+        StringBuilder text = new StringBuilder();
+        chain(text, letters, 1 + random.nextInt(5));
+        return text.toString();
+    }
+
+    private void chain(StringBuilder text, String letters, int atoms) {
+        text.append(letters.charAt(random.nextInt(letters.length())));
+        int left = atoms - 1;
+        while (left > 0) {
+            if (random.nextInt(5) == 0) {
+                text.append(link()).append(1 + random.nextInt(2));
+            }
+            int part = 1 + random.nextInt(left);
+            if (random.nextInt(2) == 0) {
+                text.append('(').append(link());
+                chain(text, letters, part);
+                text.append(')');
+            } else {
+                text.append(link());
+                chain(text, letters, left);
+                return;
+            }
+            left -= part;
+        }
+        while (random.nextInt(5) == 0) {
+            text.append(link()).append(1 + random.nextInt(2));
+        }
+    }
+
+    private String link() {
+        return new String[] {"", "", "", "", "-", "=", "=", "#"}[random.nextInt(8)];
+    }
+
+    private int code(String letters) {
+        if (random.nextInt(20) == 0) {
+            return random.nextInt(8) - 2;
+        }
+        return "HONC".indexOf(letters.charAt(random.nextInt(letters.length())));
+    }
+
+    private void rule(String letters) {
+        int a = code(letters);
+        int b = code(letters);
+        int c = random.nextBoolean() ? -1 : code(letters);
+        due("rule(" + a + ", " + b + ", " + c + ")", x.rule(a, b, c), model.rule(a, b, c));
+    }
+
+    private int order() {
+        return random.nextInt(25) == 0 ? random.nextInt(8) - 2 : random.nextInt(random.nextBoolean() ? 2 : 4);
+    }
+
+    private void change() {
+        int rule = random.nextInt(10) == 0 ? random.nextInt(7) - 2 : random.nextInt(3);
+        int i = random.nextInt(10) == 0 ? random.nextInt(6) - 2 : random.nextInt(2);
+        int j = random.nextInt(10) == 0 ? random.nextInt(6) - 2 : i + 1 + random.nextInt(2);
+        int before = order();
+        int after = order();
+        boolean got = x.change(rule, i, j, before, after);
+        due("change(" + rule + ", " + i + ", " + j + ", " + before + ", " + after + ")", got ? 1 : 0,
+                model.change(rule, i, j, before, after) ? 1 : 0);
+    }
+
+    private void matches() {
+        int rule = random.nextInt(10) == 0 ? random.nextInt(7) - 2 : random.nextInt(3);
+        int s = random.nextInt(x.species() + 3) - 1;
+        int t = random.nextInt(x.species() + 4) - 2;
+        due("matches(" + rule + ", " + s + ", " + t + ")", x.matches(rule, s, t), model.matches(rule, s, t));
+    }
+
+    private void round() {
+        int got = x.round();
+        roundAnswers[got < 0 ? 0 : got == 0 ? 1 : 2]++;
+        due("round()", got, model.round());
+        if (got != 0) {
+            compareAll();
+        }
+    }
+
+    private void ask() {
+        int s = random.nextInt(x.species() + 2) - 1;
+        int i = random.nextInt(8) - 1;
+        int j = random.nextInt(8) - 1;
+        due("species()", x.species(), model.species());
+        due("size(" + s + ")", x.size(s), model.size(s));
+        due("atom(" + s + ", " + i + ")", x.atom(s, i), model.atom(s, i));
+        due("bond(" + s + ", " + i + ", " + j + ")", x.bond(s, i, j), model.bond(s, i, j));
+        due("reaction(" + i + ", " + j + ")", x.reaction(i, j), model.reaction(i, j));
+    }
+
+    /** Looks at all that can be seen; not counted as calls of the run. */
+    private void compareAll() {
+        check.due(where + " species()", x.species(), model.species());
+        for (int s = 0; s < x.species(); s++) {
+            check.due(where + " size(" + s + ")", x.size(s), model.size(s));
+            for (int i = 0; i < x.size(s); i++) {
+                check.due(where + " atom(" + s + ", " + i + ")", x.atom(s, i), model.atom(s, i));
+                for (int j = 0; j < x.size(s); j++) {
+                    check.due(where + " bond(" + s + ", " + i + ", " + j + ")", x.bond(s, i, j), model.bond(s, i, j));
+                }
+            }
+        }
+        check.due(where + " reactions()", x.reactions(), model.reactions());
+        for (int i = 0; i < x.reactions(); i++) {
+            for (int k = 0; k < 5; k++) {
+                check.due(where + " reaction(" + i + ", " + k + ")", x.reaction(i, k), model.reaction(i, k));
+            }
+        }
+    }
+}
