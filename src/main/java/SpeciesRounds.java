@@ -225,8 +225,8 @@ public final class SpeciesRounds {
         return same || draft.put(ReactionList.pack(written));
     }
 
+    /** What stands in the list already keeps its numbers, so that it is found there again. */
     private void listDraft() {
-        list.clear();
         for (int i = 0; i < draft.count; i++) {
             for (int k = 0; k < WRITTEN_PLACES; k++) {
                 int number = draft.numberAt(i, k);
@@ -306,7 +306,7 @@ public final class SpeciesRounds {
             int added = atoms;
             atoms++;
             codes[added] = code;
-            for (int a = 0; a <= added; a++) {
+            for (int a = 0; a < added; a++) {
                 setOrder(a, added, 0);
             }
             return added;
@@ -555,9 +555,8 @@ public final class SpeciesRounds {
                 if (longer > least[place]) {
                     continue;
                 }
-                if (longer < least[place]) {
-                    takeAsLeast(longer, place, count);
-                }
+                // What is kept for longer rows needs no reset: those with a less beginning are less.
+                least[place] = longer;
                 if (place + 1 < count) {
                     ordering[place] = atom;
                     placeAtom(graph, count, place + 1, longer, taken | 1 << k);
@@ -571,13 +570,6 @@ public final class SpeciesRounds {
                 longer = longer << Word.BITS | graph.orders[ordering[k]][atom];
             }
             return longer;
-        }
-
-        private void takeAsLeast(int orders, int place, int count) {
-            least[place] = orders;
-            for (int k = place + 1; k < count; k++) {
-                least[k] = ABOVE_ALL;
-            }
         }
     }
 
@@ -644,15 +636,12 @@ public final class SpeciesRounds {
             return i + j - 1;
         }
 
+        /** Called once, no rule ever goes: the orders are 0 still. */
         void begin(int a, int b, int c) {
             codes[0] = a;
             codes[1] = b;
             codes[2] = c;
             places = c == NONE ? 2 : 3;
-            for (int pair = 0; pair < MOST_PLACES; pair++) {
-                before[pair] = 0;
-                after[pair] = 0;
-            }
         }
 
         void setOrders(int i, int j, int orderBefore, int orderAfter) {
@@ -842,10 +831,6 @@ public final class SpeciesRounds {
 
         int numberAt(int i, int k) {
             return (rows[i] >> (BITS * (WRITTEN_PLACES - 1 - k)) & MASK) - 1;
-        }
-
-        void clear() {
-            count = 0;
         }
 
         void copyFrom(ReactionList other) {

@@ -2,11 +2,12 @@ import java.util.Random;
 
 /** Random runs of calls, fixed by their seeds, on the program and on the plain model of the document. */
 public final class ModelTest {
-    private static final int RUNS = 1500;
+    private static final int RUNS = 1000;
     private static final int CALLS = 120;
 
     private final Check check = new Check();
     private final int[] roundAnswers = new int[3];
+    private int longestList;
     private Random random;
     private SpeciesRounds x;
     private PlainModel model;
@@ -17,25 +18,66 @@ public final class ModelTest {
         ModelTest test = new ModelTest();
         for (int seed = 1; seed <= RUNS && !test.check.failed(); seed++) {
             test.run(seed);
+            test.runWorld(seed);
         }
         System.out.println("rounds refused, without and with new species: " + test.roundAnswers[0] + ", "
-                + test.roundAnswers[1] + ", " + test.roundAnswers[2]);
+                + test.roundAnswers[1] + ", " + test.roundAnswers[2] + "; longest list: " + test.longestList);
         test.check.end();
+    }
+
+    private void begin(String name, int seed, int cap) {
+        x = new SpeciesRounds(cap);
+        model = new PlainModel(cap);
+        where = name + " " + seed;
+        calls = 0;
     }
 
     private void run(int seed) {
         random = new Random(seed);
-        int cap = random.nextInt(8);
-        x = new SpeciesRounds(cap);
-        model = new PlainModel(cap);
-        where = "seed " + seed;
-        calls = 0;
+        begin("run", seed, random.nextInt(8));
         // Few letters make closed worlds that rounds can fill; many make the odd cases.
         String letters = new String[] {"HONC", "HO", "HC", "C", "ON", "HHON", "NC"}[random.nextInt(7)];
         while (calls < CALLS && !check.failed()) {
             step(letters);
         }
         compareAll();
+    }
+
+    /** A few molecules and rules that fit them, then round after round: tables and lists that fill up. */
+    private void runWorld(int seed) {
+        random = new Random(-seed);
+        begin("world", seed, 2 + random.nextInt(4));
+        String[] worlds = {"H O HH HO HOH OO", "C CC C=C C#C CCC C1CC1 CCCC", "H C HC HCH C(H)(H)(H)H CC",
+            "C O C=O CO O=C=O C(=O)O", "N N#N N=N NN HN HNH N1NN1", "H O N HON HN=O HO HN N=O", "C=C HH H C"};
+        String[] texts = worlds[random.nextInt(worlds.length)].split(" ");
+        for (int k = 1 + random.nextInt(4); k > 0; k--) {
+            enter(texts[random.nextInt(texts.length)]);
+        }
+        String letters = String.join("", texts).replaceAll("[^HONC]", "");
+        for (int r = 0; r < 3; r++) {
+            rule(letters);
+            for (int k = random.nextInt(3); k >= 0; k--) {
+                gentleChange(r);
+            }
+        }
+        for (int k = 0; k < 6 && !check.failed(); k++) {
+            round();
+            if (random.nextInt(3) == 0) {
+                gentleChange(random.nextInt(3));
+            }
+        }
+        compareAll();
+    }
+
+    /** Orders that differ by one are those that matches are likeliest to have and to stand. */
+    private void gentleChange(int rule) {
+        int i = random.nextInt(2);
+        int j = 1 + random.nextInt(2);
+        int before = random.nextInt(random.nextBoolean() ? 2 : 3);
+        int after = random.nextBoolean() ? before + 1 : Math.max(0, before - 1);
+        boolean got = x.change(rule, i, j, before, after);
+        due("change(" + rule + ", " + i + ", " + j + ", " + before + ", " + after + ")", got ? 1 : 0,
+                model.change(rule, i, j, before, after) ? 1 : 0);
     }
 
     private void step(String letters) {
@@ -157,6 +199,7 @@ public final class ModelTest {
         int got = x.round();
         roundAnswers[got < 0 ? 0 : got == 0 ? 1 : 2]++;
         due("round()", got, model.round());
+        longestList = Math.max(longestList, x.reactions());
         if (got != 0) {
             compareAll();
         }
