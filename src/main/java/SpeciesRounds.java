@@ -840,19 +840,28 @@ public final class SpeciesRounds {
 
         /** False when the reaction is not there and has no room. */
         boolean put(int row) {
-            int at = count;
-            for (; at > 0 && rows[at - 1] >= row; at--) {
-                if (rows[at - 1] == row) {
-                    return true;
-                }
+            if (holds(row)) {
+                return true;
             }
             if (count >= MOST_REACTIONS) {
                 return false;
             }
-            System.arraycopy(rows, at, rows, at + 1, count - at);
+            int at = count;
+            for (; at > 0 && rows[at - 1] > row; at--) {
+                rows[at] = rows[at - 1];
+            }
             rows[at] = row;
             count++;
             return true;
+        }
+
+        private boolean holds(int row) {
+            for (int i = 0; i < count; i++) {
+                if (rows[i] == row) {
+                    return true;
+                }
+            }
+            return false;
         }
     }
 }
