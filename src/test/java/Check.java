@@ -1,17 +1,38 @@
 /** Compares answers with those that are due, and ends a test with exit code 1 if one was wrong. */
 final class Check {
+    /** As many species as the table holds; each can be typed, and N#N is none of them. */
+    static final String[] TWELVE = {"H", "O", "N", "C", "HH", "HO", "HN", "HC", "OO", "O=O", "NN", "N=N"};
+    /** Numbers that are nothing's number, those among them that a narrower type would take for a small one. */
+    static final int[] FAR = {Integer.MIN_VALUE, Integer.MIN_VALUE + 1, -65536, -256, -40, -2, 40, 256, 65536,
+        Integer.MAX_VALUE - 1, Integer.MAX_VALUE};
+
     private static final int MOST_PRINTED = 40;
 
     private int compared;
     private int wrong;
+    private String sentence;
+    private String toldSentence;
+
+    /** The answers from here on are due by this sentence of the document. */
+    void says(String words) {
+        sentence = words;
+    }
 
     void due(String call, long got, long want) {
         compared++;
         if (got != want) {
             wrong++;
             if (wrong <= MOST_PRINTED) {
+                tellSentence();
                 System.out.println(call + " answered " + got + ", due is " + want);
             }
+        }
+    }
+
+    private void tellSentence() {
+        if (sentence != null && !sentence.equals(toldSentence)) {
+            System.out.println("\"" + sentence + "\":");
+            toldSentence = sentence;
         }
     }
 
@@ -67,9 +88,12 @@ final class Check {
         return word.toString();
     }
 
+    void dueText(String what, String got, String want) {
+        due(what + " is '" + got + "', '" + want + "' is due: the same", got.equals(want), true);
+    }
+
     void dueWord(SpeciesRounds x, int s, String want) {
-        String got = wordOf(x, s);
-        due("word of species " + s + " (" + got + ", due is " + want + ")", got.equals(want), true);
+        dueText("word of species " + s, wordOf(x, s), want);
     }
 
     void dueReaction(SpeciesRounds x, int i, int... want) {

@@ -1,9 +1,12 @@
 import java.util.Random;
+import java.util.function.IntSupplier;
 
 /** Random runs of calls, fixed by their seeds, on the program and on the plain model of the document. */
 public final class ModelTest {
     private static final int RUNS = 1000;
-    private static final int CALLS = 120;
+    /** So many that all species and reactions can be looked at within the calls that an object has. */
+    private static final int CALLS = 80;
+    private static final int MOST_CALLS = 512;
 
     private final Check check = new Check();
     private final int[] roundAnswers = new int[3];
@@ -19,6 +22,7 @@ public final class ModelTest {
         for (int seed = 1; seed <= RUNS && !test.check.failed(); seed++) {
             test.run(seed);
             test.runWorld(seed);
+            test.runWild(seed);
         }
         System.out.println("rounds refused, without and with new species: " + test.roundAnswers[0] + ", "
                 + test.roundAnswers[1] + ", " + test.roundAnswers[2] + "; longest list: " + test.longestList);
@@ -50,7 +54,7 @@ public final class ModelTest {
         String[] worlds = {"H O HH HO HOH OO", "C CC C=C C#C CCC C1CC1 CCCC", "H C HC HCH C(H)(H)(H)H CC",
             "C O C=O CO O=C=O C(=O)O", "N N#N N=N NN HN HNH N1NN1", "H O N HON HN=O HO HN N=O", "C=C HH H C"};
         String[] texts = worlds[random.nextInt(worlds.length)].split(" ");
-        for (int k = 1 + random.nextInt(4); k > 0; k--) {
+        for (int k = 1 + random.nextInt(9); k > 0; k--) {
             enter(texts[random.nextInt(texts.length)]);
         }
         String letters = String.join("", texts).replaceAll("[^HONC]", "");
@@ -69,15 +73,54 @@ public final class ModelTest {
         compareAll();
     }
 
+    /** Any number for any argument, far ones and near ones. */
+    private void runWild(int seed) {
+        random = new Random(seed * 31L + 7);
+        begin("wild", seed, wild());
+        while (calls < CALLS && !check.failed()) {
+            int a = wild();
+            int b = wild();
+            int c = wild();
+            due("key(" + (a & 65535) + ")", () -> x.key((char) a) ? 1 : 0, model.key((char) a) ? 1 : 0);
+            due("size(" + a + ")", () -> x.size(a), model.size(a));
+            due("atom(" + a + ", " + b + ")", () -> x.atom(a, b), model.atom(a, b));
+            due("bond(" + a + ", " + b + ", " + c + ")", () -> x.bond(a, b, c), model.bond(a, b, c));
+            due("rule(" + a + ", " + b + ", " + c + ")", () -> x.rule(a, b, c), model.rule(a, b, c));
+            due("matches(" + a + ", " + b + ", " + c + ")", () -> x.matches(a, b, c), model.matches(a, b, c));
+            due("reaction(" + a + ", " + b + ")", () -> x.reaction(a, b), model.reaction(a, b));
+            wildChange();
+            enter(molecule("HONC"));
+            if (random.nextInt(4) == 0) {
+                round();
+            }
+        }
+        compareAll();
+    }
+
+    private void wildChange() {
+        int rule = random.nextInt(5) == 0 ? wild() : random.nextInt(3);
+        int i = random.nextInt(5) == 0 ? wild() : random.nextInt(2);
+        int j = random.nextInt(5) == 0 ? wild() : 1 + random.nextInt(2);
+        int before = random.nextInt(5) == 0 ? wild() : random.nextInt(4);
+        int after = random.nextInt(5) == 0 ? wild() : random.nextInt(4);
+        due("change(" + rule + ", " + i + ", " + j + ", " + before + ", " + after + ")",
+                () -> x.change(rule, i, j, before, after) ? 1 : 0, model.change(rule, i, j, before, after) ? 1 : 0);
+    }
+
+    private int wild() {
+        int kind = random.nextInt(12);
+        return kind == 0 ? random.nextInt() : kind < 3 ? Check.FAR[random.nextInt(Check.FAR.length)]
+                : kind < 5 ? random.nextInt(18) - 4 : random.nextInt(5) - 1;
+    }
+
     /** Orders that differ by one are those that matches are likeliest to have and to stand. */
     private void gentleChange(int rule) {
         int i = random.nextInt(2);
         int j = 1 + random.nextInt(2);
         int before = random.nextInt(random.nextBoolean() ? 2 : 3);
         int after = random.nextBoolean() ? before + 1 : Math.max(0, before - 1);
-        boolean got = x.change(rule, i, j, before, after);
-        due("change(" + rule + ", " + i + ", " + j + ", " + before + ", " + after + ")", got ? 1 : 0,
-                model.change(rule, i, j, before, after) ? 1 : 0);
+        due("change(" + rule + ", " + i + ", " + j + ", " + before + ", " + after + ")",
+                () -> x.change(rule, i, j, before, after) ? 1 : 0, model.change(rule, i, j, before, after) ? 1 : 0);
     }
 
     private void step(String letters) {
@@ -93,25 +136,25 @@ public final class ModelTest {
         } else if (kind < 17) {
             matches();
         } else if (kind < 18) {
-            boolean got = x.back();
-            due("back()", got ? 1 : 0, model.back() ? 1 : 0);
+            due("back()", () -> x.back() ? 1 : 0, model.back() ? 1 : 0);
         } else {
             ask();
         }
     }
 
-    private void due(String call, int got, int want) {
-        calls++;
-        check.due(where + ", call " + calls + ": " + call, got, want);
+    private void due(String call, IntSupplier asked, int want) {
+        if (calls < MOST_CALLS) {
+            calls++;
+            check.due(where + ", call " + calls + ": " + call, asked.getAsInt(), want);
+        }
     }
 
     private void enter(String text) {
         for (char c : text.toCharArray()) {
-            boolean got = x.key(c);
-            due("key(" + (int) c + ")", got ? 1 : 0, model.key(c) ? 1 : 0);
+            due("key(" + (int) c + ")", () -> x.key(c) ? 1 : 0, model.key(c) ? 1 : 0);
         }
         if (random.nextInt(30) != 0) {
-            due("enter() of " + text, x.enter(), model.enter());
+            due("enter() of " + text, () -> x.enter(), model.enter());
         }
     }
 
@@ -170,7 +213,7 @@ public final class ModelTest {
         int a = code(letters);
         int b = code(letters);
         int c = random.nextBoolean() ? -1 : code(letters);
-        due("rule(" + a + ", " + b + ", " + c + ")", x.rule(a, b, c), model.rule(a, b, c));
+        due("rule(" + a + ", " + b + ", " + c + ")", () -> x.rule(a, b, c), model.rule(a, b, c));
     }
 
     private int order() {
@@ -183,56 +226,67 @@ public final class ModelTest {
         int j = random.nextInt(10) == 0 ? random.nextInt(6) - 2 : i + 1 + random.nextInt(2);
         int before = order();
         int after = order();
-        boolean got = x.change(rule, i, j, before, after);
-        due("change(" + rule + ", " + i + ", " + j + ", " + before + ", " + after + ")", got ? 1 : 0,
-                model.change(rule, i, j, before, after) ? 1 : 0);
+        due("change(" + rule + ", " + i + ", " + j + ", " + before + ", " + after + ")",
+                () -> x.change(rule, i, j, before, after) ? 1 : 0, model.change(rule, i, j, before, after) ? 1 : 0);
     }
 
     private void matches() {
         int rule = random.nextInt(10) == 0 ? random.nextInt(7) - 2 : random.nextInt(3);
-        int s = random.nextInt(x.species() + 3) - 1;
-        int t = random.nextInt(x.species() + 4) - 2;
-        due("matches(" + rule + ", " + s + ", " + t + ")", x.matches(rule, s, t), model.matches(rule, s, t));
+        int s = random.nextInt(model.species() + 3) - 1;
+        int t = random.nextInt(model.species() + 4) - 2;
+        due("matches(" + rule + ", " + s + ", " + t + ")", () -> x.matches(rule, s, t), model.matches(rule, s, t));
     }
 
     private void round() {
-        int got = x.round();
-        roundAnswers[got < 0 ? 0 : got == 0 ? 1 : 2]++;
-        due("round()", got, model.round());
-        longestList = Math.max(longestList, x.reactions());
-        if (got != 0) {
-            compareAll();
-        }
+        int due = model.round();
+        roundAnswers[due < 0 ? 0 : due == 0 ? 1 : 2]++;
+        longestList = Math.max(longestList, model.reactions());
+        due("round()", () -> x.round(), due);
+        due("species()", () -> x.species(), model.species());
+        due("reactions()", () -> x.reactions(), model.reactions());
+        compareReaction(model.reactions() - 1);
+        compareReaction(random.nextInt(1 + model.reactions()));
     }
 
     private void ask() {
-        int s = random.nextInt(x.species() + 2) - 1;
+        int s = random.nextInt(model.species() + 2) - 1;
         int i = random.nextInt(8) - 1;
         int j = random.nextInt(8) - 1;
-        due("species()", x.species(), model.species());
-        due("size(" + s + ")", x.size(s), model.size(s));
-        due("atom(" + s + ", " + i + ")", x.atom(s, i), model.atom(s, i));
-        due("bond(" + s + ", " + i + ", " + j + ")", x.bond(s, i, j), model.bond(s, i, j));
-        due("reaction(" + i + ", " + j + ")", x.reaction(i, j), model.reaction(i, j));
+        due("species()", () -> x.species(), model.species());
+        due("size(" + s + ")", () -> x.size(s), model.size(s));
+        due("atom(" + s + ", " + i + ")", () -> x.atom(s, i), model.atom(s, i));
+        due("bond(" + s + ", " + i + ", " + j + ")", () -> x.bond(s, i, j), model.bond(s, i, j));
+        due("reaction(" + i + ", " + j + ")", () -> x.reaction(i, j), model.reaction(i, j));
     }
 
-    /** Looks at all that can be seen; not counted as calls of the run. */
+    /** All that can be seen at the end of a run. */
     private void compareAll() {
-        check.due(where + " species()", x.species(), model.species());
-        for (int s = 0; s < x.species(); s++) {
-            check.due(where + " size(" + s + ")", x.size(s), model.size(s));
-            for (int i = 0; i < x.size(s); i++) {
-                check.due(where + " atom(" + s + ", " + i + ")", x.atom(s, i), model.atom(s, i));
-                for (int j = 0; j < x.size(s); j++) {
-                    check.due(where + " bond(" + s + ", " + i + ", " + j + ")", x.bond(s, i, j), model.bond(s, i, j));
-                }
+        due("species()", () -> x.species(), model.species());
+        due("reactions()", () -> x.reactions(), model.reactions());
+        for (int s = 0; s <= model.species(); s++) {
+            compareSpecies(s);
+        }
+        for (int i = 0; i < model.reactions(); i++) {
+            compareReaction(i);
+        }
+    }
+
+    private void compareSpecies(int s) {
+        due("size(" + s + ")", () -> x.size(s), model.size(s));
+        for (int j = 0; j < model.size(s); j++) {
+            int atom = j;
+            due("atom(" + s + ", " + j + ")", () -> x.atom(s, atom), model.atom(s, j));
+            for (int k = 0; k < j; k++) {
+                int other = k;
+                due("bond(" + s + ", " + k + ", " + j + ")", () -> x.bond(s, other, atom), model.bond(s, k, j));
             }
         }
-        check.due(where + " reactions()", x.reactions(), model.reactions());
-        for (int i = 0; i < x.reactions(); i++) {
-            for (int k = 0; k < 5; k++) {
-                check.due(where + " reaction(" + i + ", " + k + ")", x.reaction(i, k), model.reaction(i, k));
-            }
+    }
+
+    private void compareReaction(int i) {
+        for (int k = 0; k < 5; k++) {
+            int place = k;
+            due("reaction(" + i + ", " + k + ")", () -> x.reaction(i, place), model.reaction(i, k));
         }
     }
 }
