@@ -18,6 +18,7 @@ public final class RoundEdgeTest {
         productsJustTheReactants();
         allMatchesOfAllRules();
         inTheTableWhenItBegins();
+        allProducts();
         behindTheOthers();
         eachOnce();
         twelveAndNoMore();
@@ -298,6 +299,19 @@ public final class RoundEdgeTest {
         CHECK.due("round 5", x.round(), 0);
     }
 
+    private static void allProducts() {
+        CHECK.says("All products are put into the table");
+        SpeciesRounds x = Check.with(5, "HOO", "CN");
+        two(x, 1, 1, 1, 0);
+        two(x, 2, 3, 1, 0);
+        CHECK.due("round(): two of each", x.round(), 4);
+        CHECK.dueText("species", Seen.species(x), "3:011:011 2:23:1 1:1: 1:2: 1:3: 2:01:1 -1");
+        x = Check.with(5, "CN", "N");
+        two(x, 2, 3, 1, 0);
+        CHECK.due("round(): one of two is there", x.round(), 1);
+        CHECK.dueText("species", Seen.species(x), "2:23:1 1:2: 1:3: -1");
+    }
+
     private static void behindTheOthers() {
         CHECK.says("those that are not in it yet behind the others, in the order of their keys, the least first");
         SpeciesRounds x = Check.with(5, "CC", "O");
@@ -550,7 +564,7 @@ public final class RoundEdgeTest {
     }
 
     private static void nothingToDo() {
-        CHECK.says("Answers how many species are new");
+        CHECK.says("Answers how many species are new; -1, refused");
         SpeciesRounds x = new SpeciesRounds(5);
         CHECK.due("no species, no rules", x.round(), 0);
         two(x, 3, 3, 0, 1);

@@ -17,11 +17,13 @@ public final class TermsEdgeTest {
         sameSpecies();
         twelveSpecies();
         atomsNumberedAsInTheKey();
+        lineStands();
         texts();
         rests();
         branches();
         marks();
         links();
+        everyLetter();
         atomBefore();
         restBelongs();
         firstMark();
@@ -216,6 +218,32 @@ public final class TermsEdgeTest {
         }
     }
 
+    /** Only key, back and enter change it, whatever the other calls answer. */
+    private static void lineStands() {
+        CHECK.says("What is typed stands in the LINE");
+        SpeciesRounds x = Check.with(5, "HOH");
+        Check.type(x, "C=");
+        x.species();
+        x.size(0);
+        x.size(1);
+        x.atom(0, 3);
+        x.bond(0, 0, 3);
+        x.rule(0, 1, -1);
+        x.rule(4, 0, 0);
+        x.change(0, 0, 1, 1, 0);
+        x.change(0, 0, 2, 1, 0);
+        x.matches(0, 0, -1);
+        x.matches(0, 0, 9);
+        CHECK.due("round()", x.round(), 2);
+        x.reactions();
+        x.reaction(0, 0);
+        x.reaction(9, 9);
+        x.key((char) 127);
+        x.key('O');
+        CHECK.due("enter()", x.enter(), 3);
+        CHECK.dueWord(x, 3, "2:13:2");
+    }
+
     private static void texts() {
         CHECK.says("A TEXT is a CHAIN. A chain is a letter (H, O, N or C) and a REST");
         dueEnter("", -1);
@@ -292,6 +320,16 @@ public final class TermsEdgeTest {
         dueKey("CC", "2:33:1");
         dueEnter("C-=C", -3);
         dueEnter("C##C", -3);
+    }
+
+    private static void everyLetter() {
+        CHECK.says("Every letter is an atom");
+        String[] texts = {"C", "HO", "C(N)O", "C1C(O)N1", "C(C)(N(O))C"};
+        for (int k = 0; k < texts.length; k++) {
+            SpeciesRounds x = Check.with(5, texts[k]);
+            CHECK.due("size(0) of '" + texts[k] + "'", x.size(0), k + 1);
+        }
+        dueEnter("C(C)(C)(C)(C)(C)(C)(C)", -102);
     }
 
     private static void atomBefore() {
