@@ -12,6 +12,7 @@ public final class RoundEdgeTest {
         eachPlaceIsLookedAt();
         upToCap();
         tooLargeYieldsNothing();
+        theProducts();
         oneOrTwoReactants();
         oneToThreeProducts();
         theSameTwiceOrThreeTimes();
@@ -157,6 +158,27 @@ public final class RoundEdgeTest {
         x.change(rule, 1, 2, 0, 2);
         CHECK.due("matches", x.matches(rule, 0, 1), 2);
         CHECK.due("round()", x.round(), 0);
+        CHECK.due("reactions()", x.reactions(), 0);
+    }
+
+    private static void theProducts() {
+        CHECK.says("otherwise the molecules that it yields are the PRODUCTS");
+        SpeciesRounds x = Check.with(5, "HC", "OO");
+        int rule = x.rule(0, 3, 1);
+        x.change(rule, 0, 1, 1, 0);
+        x.change(rule, 1, 2, 0, 1);
+        CHECK.due("matches", x.matches(rule, 0, 1), 2);
+        CHECK.due("round(): C leaves H for one of the O", x.round(), 2);
+        CHECK.dueWord(x, 2, "1:0:");
+        CHECK.dueWord(x, 3, "3:113:101");
+        CHECK.dueText("reactions", Seen.reactions(x), "0 1 -1 2 3; -2");
+        // With a CAP of two the larger one is no molecule, and the H does not come alone.
+        x = Check.with(2, "HC", "OO");
+        rule = x.rule(0, 3, 1);
+        x.change(rule, 0, 1, 1, 0);
+        x.change(rule, 1, 2, 0, 1);
+        CHECK.due("matches", x.matches(rule, 0, 1), 2);
+        CHECK.due("round(): nothing, not even the H", x.round(), 0);
         CHECK.due("reactions()", x.reactions(), 0);
     }
 

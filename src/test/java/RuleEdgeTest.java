@@ -11,6 +11,7 @@ public final class RuleEdgeTest {
         wrongCodes();
         ordersBecome();
         lastOrdersCount();
+        ordersOfEachTwo();
         noSuchRule();
         noSuchPlace();
         notLess();
@@ -184,6 +185,40 @@ public final class RuleEdgeTest {
         x.change(0, 1, 2, 3, 0);
         x.change(0, 1, 2, 1, 0);
         dueMatches(x, 0, 1, 0, 0);
+    }
+
+    private static void ordersOfEachTwo() {
+        CHECK.says("A rule has two or three PLACES with a letter each, and for each two of them an order BEFORE and an order "
+                + "AFTER, 0 to 3 each");
+        for (int i = 0; i <= 1; i++) {
+            for (int j = i + 1; j <= 2; j++) {
+                for (int before = 0; before <= 3; before++) {
+                    for (int after = 0; after <= 3; after++) {
+                        dueTurn(i, j, before, after);
+                    }
+                }
+            }
+        }
+    }
+
+    /** Three C with two single bonds; between the other two of them the order turns from one into another. */
+    private static void dueTurn(int i, int j, int before, int after) {
+        String[] texts = {"CCC", "C1CC1", "C=1CC=1", "C#1CC#1"};
+        String turn = "places " + i + " and " + j + ", " + before + " to " + after;
+        SpeciesRounds x = ruleOf(3, 3, 3, texts);
+        SpeciesRounds y = ruleOf(3, 3, 3, texts[before]);
+        for (SpeciesRounds each : new SpeciesRounds[] {x, y}) {
+            each.change(0, 0, 1, 1, 1);
+            each.change(0, 0, 2, 1, 1);
+            each.change(0, 1, 2, 1, 1);
+            CHECK.due(turn + ": change()", each.change(0, i, j, before, after), true);
+        }
+        for (int s = 0; s <= 3; s++) {
+            int due = s != before ? 0 : s == 1 ? 6 : 2;
+            CHECK.due(turn + ": matches in " + texts[s], x.matches(0, s, -1), due);
+        }
+        CHECK.due(turn + ": round()", y.round(), before == after ? 0 : 1);
+        CHECK.dueWord(y, y.species() - 1, after == 0 ? "3:333:011" : "3:333:11" + after);
     }
 
     private static void dueMatches(SpeciesRounds x, int... due) {

@@ -11,6 +11,7 @@ public final class TermsEdgeTest {
         oneBondBetweenTwo();
         noBondToItself();
         joinedByBonds();
+        noAtomWithMore();
         rowOfAWord();
         leastOfTheWords();
         lessAtTheFirstDifference();
@@ -147,6 +148,26 @@ public final class TermsEdgeTest {
         x.change(0, 0, 1, 1, 0);
         CHECK.due("round() of a ring that stays in one piece", x.round(), 1);
         CHECK.dueWord(x, 1, "3:333:011");
+    }
+
+    private static void noAtomWithMore() {
+        CHECK.says("no atom with more than it can have");
+        for (int code = 0; code <= 3; code++) {
+            String text = "" + "HONC".charAt(code);
+            for (int hydrogens = 0; hydrogens <= 4; hydrogens++) {
+                dueEnter(text, hydrogens <= code + 1 ? 0 : -103);
+                text += "(H)";
+            }
+        }
+        // By rounds, too: an atom takes one H after the other until it is full.
+        for (int code = 1; code <= 3; code++) {
+            SpeciesRounds x = Check.with(5, "" + "HONC".charAt(code), "H");
+            x.rule(code, 0, -1);
+            x.change(0, 0, 1, 0, 1);
+            for (int round = 1; round <= 6; round++) {
+                CHECK.due("code " + code + ": round " + round, x.round(), round <= code + 1 ? 1 : 0);
+            }
+        }
     }
 
     private static void rowOfAWord() {
